@@ -26,6 +26,10 @@ final class Check {
         return wrong;
     }
 
+    int rows() {
+        return rows;
+    }
+
     void finish() {
         if (wrong != 0) {
             System.out.println(name + ": " + wrong + " of " + rows + " answers are not as due");
