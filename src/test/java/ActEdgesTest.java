@@ -362,6 +362,16 @@ public final class ActEdgesTest {
         due("holder", 0, x.about(4));
         due("seed", 0, x.about(10));
         DOC.due("none", false, x.undo());
+        CradleTreaty y = moved();
+        String[] behind = new String[7];
+        for (int i = 6; i >= 0; i--) {
+            behind[i] = stateOf(y);
+            y.undo();
+        }
+        for (int i = 0; i < 7; i++) {
+            DOC.due("again behind " + i, true, behind[i].equals(stateOf(y)));
+            y.redo();
+        }
         says(TERMS, "REDO does that again which was taken back last (till another ACT);");
         due("four", 4, x.about(12));
         x.redo();
@@ -379,6 +389,18 @@ public final class ActEdgesTest {
         for (int more : new int[] {0, 1, 2, 50}) {
             keptActs(more);
         }
+    }
+
+    /** What an act can change. */
+    private static String stateOf(CradleTreaty x) {
+        StringBuilder text = new StringBuilder();
+        for (int what = 3; what <= 10; what++) {
+            text.append(x.about(what)).append(' ');
+        }
+        for (int tribe = 0; tribe < x.about(1); tribe++) {
+            text.append(x.tribe(tribe, 3)).append(' ').append(x.tribe(tribe, 4)).append(' ');
+        }
+        return text.toString();
     }
 
     private static void keptActs(int more) {
@@ -416,8 +438,23 @@ public final class ActEdgesTest {
         due("stiff", 0, x.tribe(1, 1));
         due("does not mirror", 0, x.tribe(0, 2));
         due("mirrors", 1, x.tribe(1, 2));
+        x = Check.told("tribe t skill 0 mirrors;tribe u skill 0;tribe v skill 0 mirrors;");
+        due("mirrors", 1, x.tribe(0, 2));
+        due("does not", 0, x.tribe(1, 2));
+        due("mirrors", 1, x.tribe(2, 2));
+        says("Promise 6", "3: what it has, 4: how often it slept with it,");
+        x = Check.told(THREE);
+        for (int tribe = 0; tribe < 3; tribe++) {
+            due("at first", 0, x.tribe(tribe, 3));
+            due("at first", 0, x.tribe(tribe, 4));
+        }
+        x.night();
+        x.night();
+        due("has", 20, x.tribe(1, 3));
+        due("slept", 2, x.tribe(0, 4));
+        due("did not", 0, x.tribe(1, 4));
         says("Promise 6", "5: MOVES that it CAN do, as bits,");
-        due("no moves", 0, x.tribe(0, 5));
+        due("no moves", 0, Check.told("tribe t skill 0;").tribe(0, 5));
         due("sixteen", 65535, Check.told(TWO + "move b a finger 0 hard 0;".repeat(16)).tribe(1, 5));
         says("Promise 6", "6: those from the FIGURE that is there (0 of the HOLDER);");
         x = Check.told(THREE + "slip 0;");
@@ -443,8 +480,16 @@ public final class ActEdgesTest {
     }
 
     private static void move() {
+        says("Promise 7", "Of a MOVE what 0: from which FIGURE, 1: to which, 2: the finger, 3: hard,");
+        CradleTreaty x = Check.told("figure a;" + "move a a finger 0 hard 0;".repeat(15)
+                + "figure b;move b a finger 9 hard 8;");
+        int[] last = {1, 0, 9, 8};
+        for (int what = 0; what < 4; what++) {
+            due("the first", 0, x.move(0, what));
+            due("the last", last[what], x.move(15, what));
+        }
         says("Promise 7", "4: the wrong FIGURE (NONE),");
-        CradleTreaty x = Check.told(THREE);
+        x = Check.told(THREE);
         due("none", -1, x.move(0, 4));
         due("c", 2, x.move(1, 4));
         due("the first", 0, Check.told(TWO + "move a b finger 0 hard 0 wrong a;").move(0, 4));
@@ -468,8 +513,11 @@ public final class ActEdgesTest {
     }
 
     private static void worthAndSlip() {
-        says("Promise 8", "NONE if one can't be.");
+        says("Promise 8", "What a FIGURE is worth to a TRIBE;");
         CradleTreaty x = Check.told(THREE);
+        due("u, a", 1, x.worth(0, 0));
+        due("not told", 0, x.worth(0, 2));
+        says("Promise 8", "NONE if one can't be.");
         due("can be", 7, x.worth(2, 1));
         due("no tribe", -1, x.worth(3, 0));
         due("no figure", -1, x.worth(0, 3));
@@ -660,10 +708,17 @@ public final class ActEdgesTest {
             CradleTreaty x = moved();
             due("image", 4, x.image(box));
             due("acts stay", 6, x.about(11));
-            x.give(0);
             x.night();
-            x.take(1, 3);
-            x.take(2, 3);
+            x.night();
+            x.give(2);
+            x.night();
+            x.take(1, 1);
+            int[] changed = {2, 1, 1, 0, 2, 2, 7, 798};
+            for (int i = 0; i < changed.length; i++) {
+                due("since then: about " + (i + 3), changed[i], x.about(i + 3));
+            }
+            due("since then: has", 40, x.tribe(1, 3));
+            due("since then: slept", 1, x.tribe(2, 4));
             due("of another box nothing", -1, x.back((box + 1) % 3));
             due("of another box nothing", -1, x.back((box + 2) % 3));
             due("back", 4, x.back(box));
@@ -737,6 +792,27 @@ public final class ActEdgesTest {
     }
 
     private static void about() {
+        says("Promise 42", "What 0: FIGURES, 1: TRIBES, 2: MOVES,");
+        due("figures", 0, new CradleTreaty().about(0));
+        due("figures", 3, Check.told(THREE).about(0));
+        due("tribes", 0, Check.told("figure a;").about(1));
+        due("tribes", 3, Check.told(THREE).about(1));
+        due("moves", 0, Check.told(TWO).about(2));
+        due("moves", 4, Check.told(THREE).about(2));
+        says("Promise 42", "7: WRONGS, 8: DROPS, 9: the day, 10: the SEED, 11: ACTS that can be undone, "
+                + "12: redone, 13: SEEN, 14: the TIME, 15: bytes on the TAPE, 16: units, 17: how many lie there.");
+        int[] want = {1, 1, 4, 71, 5, 1, 1, 9, 20, 3, 0};
+        CradleTreaty used = moved();
+        used.undo();
+        used.seen(0, 0, true);
+        used.later(9);
+        used.feed(0, 0, 0, 0, 0);
+        for (int i = 0; i < want.length; i++) {
+            due("about " + (i + 7), want[i], used.about(i + 7));
+        }
+        used = Check.told(THREE);
+        used.way(1, 1);
+        due("lie", 1, used.about(17));
         says("Promise 42", "3: the FIGURE that is there (NONE without FIGURES),");
         due("none", -1, Check.told("tribe t skill 0;").about(3));
         CradleTreaty x = Check.told("tribe t skill 0;cord 1;");

@@ -152,6 +152,17 @@ public final class PastEdgesTest {
         due("b in the end", 8, x.rows(0));
         x.seen(1, 1, true);
         due("not so before", 0, x.rows(0));
+        x = Check.told("figure a;figure b;figure c;move a a finger 0 hard 0;move a b finger 1 hard 0;"
+                + "move a c finger 2 hard 0;move b b finger 3 hard 0;move c c finger 4 hard 0;");
+        due("b or c from one on, or never", 13, x.rows(0));
+        x.seen(6, 0, false);
+        due("not never", 12, x.rows(0));
+        x.seen(6, 1, false);
+        due("not b either", 6, x.rows(0));
+        x.felt(1, 0, false);
+        due("c at once, as b is not", 1, x.rows(0));
+        x.felt(1, 2, false);
+        due("nor by 2", 0, x.rows(0));
         says(TERMS, "SURE of a number of MOVES: the FIGURE behind them, if it is the same in all.");
         x = Check.told(STAIR);
         x.seen(3, 0, true);
@@ -219,6 +230,7 @@ public final class PastEdgesTest {
         x.untell(1);
         due("there are 30, though one is untold", -1, x.seen(0, 0, true));
         Check.treaty(x, STAIR);
+        due("all of it is gone in another treaty", 64, x.rows(0));
         due("none in another treaty", 0, x.seen(0, 0, true));
     }
 
@@ -331,6 +343,12 @@ public final class PastEdgesTest {
     }
 
     private static void sure() {
+        says("Promise 38", "SURE: the FIGURE;");
+        CradleTreaty b = Check.told(STAIR);
+        b.seen(1, 1, true);
+        due("the first", 0, b.sure(0, 0));
+        due("the second", 1, b.sure(1, 0));
+        due("the second", 1, b.sure(6, 0));
         says("Promise 38", "-2 if it is not the same in all;");
         CradleTreaty x = Check.told(STAIR);
         due("0", 0, x.sure(0, 0));

@@ -312,6 +312,12 @@ public final class QuestionEdgesTest {
         x = Check.told(figures(4) + PAIR + "worth u a 2;worth v a 2;worth u b 2;worth v b 3;worth u c 3;worth v c 2;"
                 + "worth u d 2;worth v d 3;");
         due("a is less than b, c and d; b and d are alike", 14, x.good());
+        x = Check.told(figures(2) + PAIR + "worth u a 3;worth v a 2;worth u b 2;worth v b 2;");
+        due("a is more to u, as much to v", 1, x.good());
+        x = Check.told(figures(2) + PAIR + "worth u a 2;worth v a 2;worth u b 2;worth v b 3;");
+        due("b is as much to u, more to v", 2, x.good());
+        x = Check.told(figures(2) + PAIR + "worth u a 9;worth v a 2;worth u b 2;worth v b 3;");
+        due("each is more to one", 3, x.good());
         due("all alike", 255, Check.told(figures(8) + PAIR).good());
         due("one", 1, Check.told("figure a;" + PAIR).good());
     }
@@ -325,6 +331,10 @@ public final class QuestionEdgesTest {
         due("the shorter one", 3, x.round(1));
         due("the shorter one", 3, x.round(3));
         due("all eight", 8, x.round(7));
+        x = Check.told(figures(2) + "tribe u skill 0;tribe v skill 0 stiff 0;" + moves("ab0 ba0", 0));
+        due("by one that can", 2, x.round(0));
+        x = Check.told(figures(2) + "tribe v skill 0 stiff 0;tribe u skill 0 stiff 1;" + moves("ab0 ba1", 0));
+        due("each by another", 2, x.round(0));
         says(TERMS, "WILL: what a TRIBE has behind n NIGHTS, if nobody takes it (beyond day 999, too).");
         // More than the 512 calls of one object, for which alone the document speaks.
         x = Check.told("figure a;tribe t skill 0;worth t a 99;");
@@ -349,8 +359,11 @@ public final class QuestionEdgesTest {
     }
 
     private static void way() {
-        says("Promise 16", "(0: it is there);");
+        says("Promise 16", "WAY: how many TAKINGS");
         CradleTreaty x = Check.told(WAYS);
+        due("one", 1, x.way(1, 1));
+        due("two", 2, x.way(1, 2));
+        says("Promise 16", "(0: it is there);");
         due("there", 0, x.way(1, 0));
         lie(x);
         due("there, though w can't take it", 0, x.way(2, 0));
@@ -470,6 +483,7 @@ public final class QuestionEdgesTest {
         due("0", 0, x.deal(1, 0));
         due("1", 1, x.deal(1, 1));
         due("8", 1, x.deal(1, 8));
+        due("0 again", 0, x.deal(1, 0));
         says("Promise 20", "NONE if the other one is the HOLDER, or one can't be.");
         due("the holder", -1, x.deal(0, 1));
         due("the holder", -1, x.deal(0, 0));
@@ -527,6 +541,7 @@ public final class QuestionEdgesTest {
         due("one may do all", 2, x.near(1));
         due("nobody", 0, Check.told(figures(2) + moves("ab0", 0)).near(1));
         due("no way on", 0, Check.told(TWO + moves("ab0", 0)).near(2));
+        due("u can", 2, Check.told(figures(2) + "tribe u skill 0;tribe v skill 0 stiff 0;" + moves("ab0", 0)).near(1));
         due("all of it", 3, Check.told(TWO + moves("aa0 ab0", 0)).near(8));
         says("Promise 24", "(0: the one that is there), as bits;");
         x.take(0, 0);
@@ -604,6 +619,7 @@ public final class QuestionEdgesTest {
         due("c", 4, Check.told(WAYS).ends());
         due("nobody can by 1", 6, Check.told(figures(3) + "tribe t skill 0 stiff 1;" + moves("ab0 bc1", 0)).ends());
         due("by itself", 2, Check.told(TWO + moves("aa0", 0)).ends());
+        due("u can", 2, Check.told(figures(2) + "tribe u skill 0;tribe v skill 0 stiff 0;" + moves("ab0", 0)).ends());
         due("without tribes", 3, Check.told(figures(2) + moves("ab0 ba0", 0)).ends());
         due("without moves", 255, Check.told(figures(8) + PAIR).ends());
         due("without figures", 0, Check.told(PAIR).ends());

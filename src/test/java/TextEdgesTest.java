@@ -68,6 +68,13 @@ public final class TextEdgesTest {
         DOC.fault(2, 0, ";");
         DOC.fault(2, 7, "draw 1;;");
         DOC.right(2, LINES);
+        says(TERMS, "line = figure NAME ;  |  tribe NAME skill N {stiff N} [mirrors] ;  |  "
+                + "move NAME NAME finger N hard N [wrong NAME] ;  |  worth NAME NAME N ;  |  slip e ;  |  "
+                + "cord N ;  |  draw N ;.");
+        String[] tokens = LINES.split(" ");
+        for (int i = 0; i < tokens.length; i++) {
+            leaveOut(tokens, i);
+        }
         says(TERMS, "{stiff N} [mirrors]");
         DOC.right(0, "tribe t skill 0;");
         DOC.right(0, "tribe t skill 0 mirrors;");
@@ -82,6 +89,27 @@ public final class TextEdgesTest {
         due("one", 1, x.move(1, 4));
         DOC.fault(2, TWO.length() + 30, TWO + "move a b finger 0 hard 0 wrong;");
         DOC.fault(2, TWO.length() + 33, TWO + "move a b finger 0 hard 0 wrong a wrong b;");
+    }
+
+    /** Without one token of all the next one can't stand there, but where the line is right still. */
+    private static void leaveOut(String[] tokens, int out) {
+        String mayBeLeftOut = " mirrors not ";
+        boolean mayBe = mayBeLeftOut.contains(" " + tokens[out] + " ");
+        StringBuilder text = new StringBuilder();
+        int place = 0;
+        for (int i = 0; i < tokens.length; i++) {
+            if (i == out) {
+                place = text.length();
+            } else {
+                text.append(tokens[i]).append(' ');
+            }
+        }
+        CradleTreaty x = new CradleTreaty();
+        due("treaty of " + text, mayBe ? 2 : -1, Check.treaty(x, text.toString()));
+        if (tokens[out].equals(";") && out < tokens.length - 1) {
+            due("fault without ; in " + text, 2, x.fault(0));
+            due("place without ; in " + text, place, x.fault(1));
+        }
     }
 
     private static void partsOfAFormula() {
@@ -405,7 +433,13 @@ public final class TextEdgesTest {
         DOC.fault(2, 65, "slip " + most + "<1;");
         due("brackets are one", 30, Check.told("slip " + "1+".repeat(28) + "(1);").about(16));
         DOC.fault(2, 64, "slip " + "1+".repeat(28) + "(1+1);");
-        DOC.fault(2, 64, "slip " + "1+".repeat(29) + "(1);");
+        DOC.fault(2, 65, "slip " + "1+".repeat(29) + "1+(1);");
+        for (String sign : new String[] {" or ", " and ", "*", "/", "%", "-"}) {
+            String thirty = "slip 1" + (sign + "1").repeat(29);
+            due("units by" + sign, 30, Check.told(thirty + ";").about(16));
+            DOC.fault(2, thirty.length() + sign.length(), thirty + sign + "1;");
+        }
+        due("words are units", 5, Check.told("slip hard+skill*worn-wet or day;").about(16));
         says(TERMS, "60 units in all");
         // There is one slip, so that its 30 are the most in all.
         due("units", 30, Check.told("slip " + most + ";").about(16));
@@ -446,6 +480,10 @@ public final class TextEdgesTest {
         DOC.fault(2, 17, "slip not 1+(((((((1)))))));");
         DOC.right(0, "slip not 1<((((((1))))));");
         DOC.fault(2, 17, "slip not 1<(((((((1)))))));");
+        // A fault within others leaves nothing of them for the next text.
+        CradleTreaty x = new CradleTreaty();
+        due("faulty within seven", -1, Check.treaty(x, "slip (((((not not $"));
+        due("seven", 0, Check.treaty(x, "slip (((((((1)))))));"));
         DOC.fault(2, 16, "slip (((((1)+((((1))))))));");
     }
 
@@ -657,20 +695,29 @@ public final class TextEdgesTest {
         due("bytes", 30, x.about(15));
     }
 
+    /** One of which nothing is as at first. */
     private static CradleTreaty used() {
-        CradleTreaty x = Check.told(TWO + "move a b finger 0 hard 0;worth u b 5;slip 0;cord 5;draw 3;");
+        CradleTreaty x = Check.told(TWO + "move a b finger 0 hard 2 wrong a;move a b finger 0 hard 1;"
+                + "move a b finger 0 hard 0;move b a finger 0 hard 0;worth u a 1;worth v a 2;worth v b 3;"
+                + "slip (hard>0)*100;cord 5;draw 3;");
         x.later(7);
-        x.seen(0, 0, true);
-        x.take(1, 0);
+        x.seen(0, 0, false);
         x.image(0);
         x.image(2);
+        x.take(1, 0);
+        x.take(0, 1);
+        x.night();
+        x.take(1, 2);
         x.night();
         x.rain();
-        x.undo();
         x.give(0);
+        x.give(1);
         x.undo();
-        x.way(0, 1);
-        x.surest(0, 1, 0);
+        x.way(1, 0);
+        int[] want = {2, 2, 4, 1, 0, 2, 1, 1, 1, 2, 456, 7, 1, 1, 7, 0, 4, 1};
+        for (int what = 0; what < want.length; what++) {
+            due("used: about " + what, want[what], x.about(what));
+        }
         return x;
     }
 
@@ -684,57 +731,91 @@ public final class TextEdgesTest {
         due("no moves any more", -2, x.move(0, 0));
         Check.treaty(x, "$");
         due("empty behind a fault too", 0, x.about(15));
+        for (int i = 1; i <= 12; i++) {
+            Check.treaty(x, "figure a;tribe t skill 0;move a a finger 0 hard 0;slip " + "0+".repeat(29) + i + ";");
+            due("each by itself", i, x.slip(0, 0));
+        }
+        treatyAnew();
+        says("Promise 4", "how many FIGURES;");
+        due("none", 0, Check.treaty(x, "tribe u skill 0;"));
+        due("most", 8, Check.treaty(x, figures(8)));
+        treatyWithAFault();
+    }
+
+    private static void treatyAnew() {
         says("Promise 4", "(all as told, day 0, no ACTS are kept, nothing is SEEN, nothing lies there, "
                 + "BOXES are empty then; the TIME stays)");
-        x = Check.told(TWO + "move a b finger 0 hard 0;move b a finger 0 hard 0;");
-        x.later(7);
-        x.seen(0, 0, true);
-        x.image(0);
-        x.take(1, 0);
-        x.night();
-        x.rain();
-        x.give(0);
-        x.undo();
-        x.way(0, 0);
-        due("a way lies there", 1, x.about(17));
-        due("anew", 2, Check.treaty(x, TWO + "draw 3;"));
-        int[] want = {2, 2, 0, 0, 0, 0, 0, 0, 0, 0, 3, 0, 0, 0, 7, 0, 0, 0};
+        CradleTreaty x = used();
+        due("anew", 2, Check.treaty(x, TWO + "move a a finger 0 hard 0;draw 4;"));
+        int[] want = {2, 2, 1, 0, 0, 0, 0, 0, 0, 0, 4, 0, 0, 0, 7, 0, 0, 0};
         for (int what = 0; what < want.length; what++) {
             due("about " + what, want[what], x.about(what));
         }
-        due("has", 0, x.tribe(1, 3));
-        due("slept", 0, x.tribe(1, 4));
+        for (int tribe = 0; tribe < 2; tribe++) {
+            due("has", 0, x.tribe(tribe, 3));
+            due("slept", 0, x.tribe(tribe, 4));
+        }
         DOC.due("undo", false, x.undo());
         DOC.due("redo", false, x.redo());
         DOC.due("untell", false, x.untell(0));
+        due("nothing that was seen counts", 1, x.rows(7));
         due("lies", -1, x.lies(0));
         for (int box = 0; box < 3; box++) {
             due("back", -1, x.back(box));
         }
-        x = used();
-        Check.treaty(x, TWO + "move a b finger 0 hard 9;");
+        toldAnew();
+    }
+
+    /** What was told is gone, whichever treaty of one object it was. */
+    private static void toldAnew() {
+        CradleTreaty x = new CradleTreaty();
+        String full = "figure z;figure b;tribe w skill 9 stiff 5 mirrors;tribe v skill 8 stiff 4 mirrors;"
+                + "move z z finger 4 hard 1 wrong b;worth w z 7;worth v b 8;slip 55;cord 2;draw 8;";
+        String plain = TWO + "move a b finger 4 hard 9;";
+        for (int i = 0; i < 3; i++) {
+            due("full", 2, Check.treaty(x, full));
+            due("plain", 2, Check.treaty(x, plain));
+            isPlain(x);
+            due("plain again", 2, Check.treaty(x, plain));
+            isPlain(x);
+        }
+    }
+
+    private static void isPlain(CradleTreaty x) {
         due("slip is not told any more", 90, x.slip(0, 0));
-        due("worth is not told any more", 0, x.worth(0, 1));
+        due("wrong is not told any more", -1, x.move(0, 4));
+        for (int tribe = 0; tribe < 2; tribe++) {
+            due("skill", 0, x.tribe(tribe, 0));
+            due("not stiff any more", 0, x.tribe(tribe, 1));
+            due("mirrors no more", 0, x.tribe(tribe, 2));
+            due("can do it", 1, x.tribe(tribe, 5));
+            due("worth is not told any more", 0, x.worth(tribe, 0) + x.worth(tribe, 1));
+        }
         for (int night = 1; night <= 8; night++) {
             x.night();
         }
         due("cord is not told any more", 8, x.about(5));
         due("draw is not told any more", 0, x.about(10));
-        says("Promise 4", "how many FIGURES;");
-        due("none", 0, Check.treaty(x, "tribe u skill 0;"));
-        due("most", 8, Check.treaty(x, figures(8)));
+        due("units", 0, x.about(16));
+    }
+
+    private static void treatyWithAFault() {
         says("Promise 4", "NONE: a FAULT (all stays).");
-        x = used();
+        CradleTreaty x = used();
         String before = Sentences.all(x);
-        int slips = x.slip(0, 0);
         for (String text : new String[] {"$", "figure z;figure z;", "draw 8;cord 1;slip 50;$", figures(9)}) {
             due("treaty of " + text, -1, Check.treaty(x, text));
             DOC.same("treaty of " + text, before, x);
         }
-        due("slip", slips, x.slip(0, 0));
-        due("worth", 5, x.worth(0, 1));
-        due("box", 0, x.back(2));
+        due("slip", 100, x.slip(0, 0));
+        due("slip", 0, x.slip(0, 2));
+        due("worth", 3, x.worth(1, 1));
+        due("lies", 3, x.lies(0));
+        DOC.due("redo", true, x.redo());
+        due("what was seen counts", 0, x.rows(7));
+        DOC.due("untell", true, x.untell(0));
         due("no box", -1, x.back(1));
+        due("box", 0, x.back(2));
     }
 
     private static void fault() {
