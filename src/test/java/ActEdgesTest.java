@@ -560,10 +560,12 @@ public final class ActEdgesTest {
         refused(x, "by a stiff finger", 1, 0);
         refused(x, "no tribe", 3, 0);
         refused(x, "no move", 1, 4);
-        for (int wrong : new int[] {Integer.MIN_VALUE, -1, 32, Integer.MAX_VALUE}) {
-            refused(x, "no tribe", wrong, 1);
-            refused(x, "no move", 1, wrong);
+        String before = Sentences.all(x);
+        for (int wrong : FAR_NUMBERS) {
+            due("no tribe", -1, x.take(wrong, 1));
+            due("no move", -1, x.take(1, wrong));
         }
+        DOC.same("take", before, x);
         due("rain can be done again", 1, x.about(12));
         x.take(1, 1);
         due("an act", 1, x.about(11));
