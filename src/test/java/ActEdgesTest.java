@@ -824,6 +824,13 @@ public final class ActEdgesTest {
         says("Promise 42", "4: the HOLDER (NONE),");
         due("none", -1, Check.told("figure a;").about(4));
         due("the first", 0, Check.told("tribe t skill 0;").about(4));
+        says("Promise 42", "5: how WORN,");
+        CradleTreaty worn = Check.told("cord 99;");
+        for (int night = 0; night < 98; night++) {
+            due("worn", night, worn.about(5));
+            worn.night();
+        }
+        due("worn", 98, worn.about(5));
         says("Promise 42", "6: 1 if WET, else 0,");
         due("dry", 0, x.about(6));
         x.rain();

@@ -14,6 +14,7 @@ public final class QuestionEdgesTest {
 
     public static void main(String[] args) {
         nothingIsDone();
+        full();
         wayByTurns();
         firstWays();
         surestOdds();
@@ -105,6 +106,52 @@ public final class QuestionEdgesTest {
         due("by u now", 1, x.way(0, 1));
         due("not by v any more", -1, x.way(1, 1));
         due("by u now", 1, x.hands(2, 1));
+    }
+
+    private static void full() {
+        says("Terms 1", "At most 8 FIGURES, 5 TRIBES");
+        CradleTreaty x = Check.told(figures(8) + "tribe p skill 0;tribe q skill 0;tribe r skill 0;tribe s skill 0;"
+                + "tribe t skill 0;" + moves("ab0 bc0 cd0 de0 ef0 fg0 gh0 ha0", 1)
+                + moves("ba1 cb1 dc1 ed1 fe1 gf1 hg1 ah1", 2) + "worth t h 9;worth p e 5;");
+        due("can", 65535, x.tribe(4, 5));
+        due("from a", 32769, x.tribe(4, 6));
+        due("all five can", 31, x.move(15, 5));
+        due("worth", 9, x.worth(4, 7));
+        due("slip", 20, x.slip(4, 15));
+        due("way back", 1, x.way(4, 7));
+        lie(x, 15);
+        due("way there", 4, x.way(4, 4));
+        lie(x, 0, 1, 2, 3);
+        due("surest", 4, x.surest(4, 7, 0));
+        lie(x, 15);
+        due("of", 5, x.surest(4, 7, 1));
+        due("makes", 255, x.makes(31));
+        due("makes", 255, x.makes(16));
+        due("hands", 1, x.hands(7, 0));
+        due("hands", 2, x.hands(7, 1));
+        due("deal", 7, x.deal(4, 1));
+        due("deal", 7, x.deal(4, 8));
+        due("fair", 7, x.fair());
+        due("good", 144, x.good());
+        due("round", 2, x.round(7));
+        due("near", 130, x.near(1));
+        due("near", 85, x.near(8));
+        due("both", 65535, x.both(3, 4));
+        due("clumsy", 0, x.clumsy(15));
+        due("idle", 0, x.idle());
+        due("ends", 0, x.ends());
+        due("sources", 0, x.sources());
+        due("will", 0, x.will(4, 60));
+        due("mirror", 0, x.mirror(4));
+        due("rows", 64, x.rows(0));
+        due("seen", 0, x.seen(6, 7, false));
+        due("felt", 1, x.felt(1, 1, true));
+        due("rows", 32, x.rows(0));
+        due("h behind one", 7, x.sure(1, 0));
+        due("take", 7, x.take(4, 15));
+        due("night", 9, x.night());
+        due("has", 9, x.tribe(4, 3));
+        due("slept", 1, x.tribe(4, 4));
     }
 
     private static void wayByTurns() {

@@ -584,6 +584,8 @@ public final class TextEdgesTest {
     }
 
     private static void newObject() {
+        says("Terms 4", "`NONE = -1`: There is none.");
+        due("NONE", -1, CradleTreaty.NONE);
         says("Promise 1", "An empty TREATY.");
         int[] want = {0, 0, 0, -1, -1, 0, 0, 0, 0, 0, 0, 0, 0, 0, 0, 0, 0, 0};
         CradleTreaty x = new CradleTreaty();
