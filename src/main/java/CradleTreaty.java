@@ -68,7 +68,11 @@ public final class CradleTreaty {
     }
 
     public int treaty() {
-        boolean good = reader.read();
+        reader.start();
+        boolean good = true;
+        for (int line = 0; line < Tape.MOST && good && !reader.isAtEnd(); line++) {
+            good = reader.readLine();
+        }
         tape.cut(0);
         if (!good) {
             return NONE;
@@ -643,12 +647,14 @@ public final class CradleTreaty {
 
         /** Hands out the draft that was read; the old treaty is the place of the next draft. */
         Treaty exchange(Treaty old) {
+            draft.seeWhoCan();
             Treaty read = draft;
             draft = old;
             return read;
         }
 
-        boolean read() {
+        // The lines are read one by one from outside: so the calls within a line stay eight deep.
+        void start() {
             draft.clear();
             cordTold = false;
             drawTold = false;
@@ -656,13 +662,10 @@ public final class CradleTreaty {
             fault = 0;
             place = NONE;
             tokens.start();
-            for (int line = 0; line < Tape.MOST && tokens.kind != Tokens.END; line++) {
-                if (!readLine()) {
-                    return false;
-                }
-            }
-            draft.seeWhoCan();
-            return true;
+        }
+
+        boolean isAtEnd() {
+            return tokens.kind == Tokens.END;
         }
 
         private boolean refuse(int what) {
@@ -671,7 +674,7 @@ public final class CradleTreaty {
             return false;
         }
 
-        private boolean readLine() {
+        boolean readLine() {
             switch (tokens.kind) {
                 case Tokens.FIGURE: return readFigure();
                 case Tokens.TRIBE: return readTribe();

@@ -27,10 +27,35 @@ public final class LanguageTest {
         "\\bMath\\.(?!min|max)", "while \\(true\\)", "for \\(;;\\)", "[^\n\\x20-\\x7e]"};
 
     public static void main(String[] args) throws IOException {
+        document(Path.of("../shared/DOC.md"));
         face();
         members();
         source(Files.readString(Path.of("src/main/java/CradleTreaty.java")));
         CHECK.finish();
+    }
+
+    /** That the face here is the document's: once as a whole, and once promise by promise. */
+    private static void document(Path path) throws IOException {
+        CHECK.due("NONE", -1, CradleTreaty.NONE);
+        if (!Files.exists(path)) {
+            System.out.println("LanguageTest: the document is not at " + path + ", its face is not looked at");
+            return;
+        }
+        String text = Files.readString(path);
+        Set<String> want = new TreeSet<>(List.of(FACE.split(" ")));
+        Set<String> whole = signatures("    public (int|boolean) (\\w+)\\((.*)\\);", text);
+        CHECK.due("the document's face is " + whole, true, want.equals(whole));
+        Set<String> promised = signatures("`(int|boolean) (\\w+)\\(([^)]*)\\)`: ", text);
+        CHECK.due("the promises are of " + promised, true, want.equals(promised));
+    }
+
+    private static Set<String> signatures(String form, String text) {
+        Set<String> found = new TreeSet<>();
+        for (Matcher row = Pattern.compile(form).matcher(text); row.find();) {
+            String types = row.group(3).replaceAll("(\\w)\\w* \\w+(, )?", "$1");
+            found.add(row.group(2) + "(" + types + ")" + row.group(1).charAt(0));
+        }
+        return found;
     }
 
     private static void face() {
